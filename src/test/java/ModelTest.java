@@ -53,9 +53,10 @@ public final class ModelTest {
   }
 
   private static int any() {
-    int form = draws.nextInt(4);
+    int form = draws.nextInt(6);
     if (form == 0) return draws.nextInt();
     if (form == 1) return ODD[draws.nextInt(ODD.length)];
+    if (form == 2) return upTo(2);
     return upTo(40) - 10;
   }
 
@@ -67,6 +68,13 @@ public final class ModelTest {
       for (int i = 0; i < many; i++) fountainCall(10 * upTo(6) + upTo(9), Math.max(0, 9 - i - upTo(2)));
       for (int i = 0; i < 9; i++) pipeCall(upTo(many - 1), upTo(many - 1), 1 + upTo(3));
       calls = many + 9;
+      if (draws.nextBoolean()) {
+        String text = "d+(h" + "<=>".charAt(upTo(2)) + upTo(5) + ")*f";
+        Checks.due("text " + text, Checks.text(x, 1, text), 1);
+        y.feed(Checks.word(text.substring(0, 8)), 8);
+        y.feed(Checks.word(text.substring(8)), text.length() - 8);
+        y.text(1);
+      }
     }
     // counts of FOUNTAINS and PIPES ask once more a call, so half the calls are the run's own
     for (; calls < CALLS / 4; calls++) {
@@ -128,6 +136,8 @@ public final class ModelTest {
         break;
       default:
         String text = written(use == 0 ? "zhk" : "dfh", 3);
+        // 1 and 0 are both held to 1: so that they can be told apart
+        if (draws.nextBoolean()) text = (use == 0 ? "z+(" : "d+(") + text + ")";
         if (draws.nextInt(3) == 0) text = spoiled(text);
         for (int i = 0; i < text.length(); i += 8) {
           int bytes = Math.min(8, text.length() - i);

@@ -60,6 +60,7 @@ public final class PromiseTest {
     reach();
     odds();
     fits();
+    asSlowAsNow();
   }
 
   private static void voicePromises() {
@@ -221,6 +222,8 @@ public final class PromiseTest {
     talk(x, 0, 0, 0, 0, 0, 13);
     due("an ECHO with TALK 13", x.says(5, 10), 22 - 6 + 3);
     due("SIZE 99 is held", x.says(0, 99), 99);
+    x.become(6, 65);
+    due("a POLITE one with 5", x.says(6, 10), 1 + 2);
     x.become(2, 29);
     due("a DOLPHIN below 1 is held", x.says(2, 1), 1);
     due("one that does not SAY ON", x.goesOn(3, 6), 0);
@@ -450,7 +453,7 @@ public final class PromiseTest {
   private static final Object[][] LAWS = {
     {"z+h*k", 14}, {"(z+h)*k", 20}, {"9+z-h-k", 4}, {"9-(z-h)", 10}, {"h*k+z", 14}, {"8/3*3", 6}, {"8%3*4", 8},
     {"7-2+1", 6}, {"z<h", 1}, {"z>h", 1}, {"h>z", 1}, {"z=2", 1}, {"z=3", 1}, {"2+(z=2)*5", 7}, {"2+(z=3)*5", 2},
-    {"2+(z<h)*5", 7}, {"2+(z>h)*5", 2}, {"2+(h>z)*5", 7}, {"2+(3<z+2)*5", 7}, {"2+(9&4)", 3}, {"2+(9&0)", 2},
+    {"2+(z<h)*5", 7}, {"2+(z>h)*5", 2}, {"2+(h>z)*5", 7}, {"2+(z<2)", 2}, {"2+(2>z)", 2}, {"2+(z>2)", 2}, {"2+(3<z+2)*5", 7}, {"2+(9&4)", 3}, {"2+(9&0)", 2},
     {"2+(0|0)", 2}, {"2+(0|7)", 3}, {"2+(1|0&0)", 3}, {"2+((1|0)&0)", 2}, {"2+!0", 3}, {"2+!9", 2}, {"2+!!9", 3},
     {"!z+5", 5}, {"!(z+5)+5", 5}, {"5/0+4", 4}, {"5%0+4", 4}, {"0/0+4", 4}, {"(0-7)/2+9", 6}, {"(0-7)%2+9", 8},
     {"7/(0-2)+9", 6}, {"7%(0-2)+9", 10}, {"0012", 12}, {"0000+3", 3}, {"9999", 99}, {"0-5", 1}, {"2+(0-1&1)", 3},
@@ -635,6 +638,10 @@ public final class PromiseTest {
       for (int f = 0; f < 3; f++) due("TALK is no less", x.fountainIs(f, 3), talk[f]);
     }
     due("DAY", x.count(3), 6);
+    FountainTalk one = new FountainTalk();
+    one.fountain(0, 0);
+    due("with one FOUNTAIN", one.loose(1), 1);
+    due("three draws", one.count(8), thirdOfOne());
     FountainTalk y = threeSpouts();
     y.seed(-77);
     int each = 0;
@@ -655,6 +662,12 @@ public final class PromiseTest {
     x.loose(8);
     due("DAY", x.count(3), 9999);
     Checks.refused(x, STATE, "above 9999", () -> x.loose(1));
+  }
+
+  private static int thirdOfOne() {
+    int z = 1;
+    for (int i = 0; i < 3; i++) z = z * 1103515245 + 12345;
+    return z;
   }
 
   private static void seed() {
@@ -837,6 +850,41 @@ public final class PromiseTest {
     Checks.refused(y, NONE, "without FOUNTAINS there is none", () -> y.fits(0, 1));
   }
 
+  /** To the BASIN 3 comes at once, which does not go on, or 4 by way of 1, which does: FROST tells what is first. */
+  private static FountainTalk twoWays(int frost) {
+    FountainTalk x = new FountainTalk();
+    x.fountain(0, 9);
+    x.fountain(10, 7);
+    x.fountain(31, 3);
+    x.fountain(0, 1);
+    x.pipe(0, 2, 2);
+    x.pipe(0, 1, 1);
+    x.pipe(1, 2, 2);
+    x.pipe(2, 3, 1);
+    Checks.text(x, 1, "d+(h=6)*f*2");
+    due("with no FROST", x.hears(0, 2), 7);
+    x.freeze(frost);
+    return x;
+  }
+
+  /** Each act asks HOW SLOW the PIPES are now, whatever was thought of ahead of it. */
+  private static void asSlowAsNow() {
+    Checks.topic("16 to 25: HOW SLOW now");
+    due("hush", twoWays(1).hush(0, 2, 3, 0), 1);
+    due("reach", twoWays(1).reach(0, 2, 3, 4, 0), 0);
+    due("odds, from 0, 2 and 3", twoWays(1).odds(3, 2, 0), 3);
+    due("hears", twoWays(1).hears(0, 2), 15);
+    due("heard", twoWays(1).heard(0, 2, 2, 0), 3);
+    due("let", twoWays(1).let(0, 2), 15);
+    FountainTalk x = twoWays(1);
+    x.sheet(0, 8, 4);
+    x.put(0, 0, 2);
+    x.put(0, 1, 3);
+    x.put(0, 2, 4);
+    x.put(0, 3, 5);
+    due("fits", x.fits(0, 0), 1);
+  }
+
   private static void trace(FountainTalk x, int... bodies) {
     due("BODIES", x.count(7), bodies.length);
     for (int i = 0; i < bodies.length; i++) due("body(" + i + ")", x.body(i), bodies[i]);
@@ -887,7 +935,10 @@ public final class PromiseTest {
     trace(x, 71, 11, 70);
     due("POLITE drips", x.voice(6, 2, 7), 25 - 7);
     trace(x, 12, 71, 11, 70);
-    due("POLITE parts", x.voice(6, 3, 7), 7);
+    for (int f = 2; f < 7; f += f == 3 ? 2 : 1) {
+      if (f != 4) due("parts as SPOUT", x.voice(f, 3, 7), 7);
+      if (f != 4) trace(x, 13);
+    }
     due("a sum wraps", x.voice(1, 0, MIN), MAX - 2);
     due("a product wraps", x.voice(0, 1, MAX), -2);
     x.become(1, 0);
