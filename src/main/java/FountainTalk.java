@@ -48,8 +48,6 @@ public final class FountainTalk {
   private final Hearing hearing;
   private final Text draft;
   private final Speaker speaker;
-  private final int[] trace;
-  private int traced;
   private final Sheet[] sheets;
   private final int[] errors;
 
@@ -59,7 +57,6 @@ public final class FountainTalk {
     hearing = new Hearing(city);
     draft = new Text();
     speaker = new Speaker();
-    trace = new int[TRACE_LENGTH];
     sheets = new Sheet[SHEETS];
     for (int i = 0; i < SHEETS; i++) sheets[i] = new Sheet();
     errors = new int[PARTED + 1];
@@ -288,16 +285,12 @@ public final class FountainTalk {
   public int voice(int fountain, int voice, int x) {
     if (!isFountain(fountain) || voice < 0 || voice > 3) return error(BEYOND);
     int answer = speaker.answer(city, fountain, voice, x);
-    if (speaker.parted) return error(PARTED);
-    // THE TRACE is taken over only here: an act that answers an ERROR changes nothing.
-    System.arraycopy(speaker.bodies, 0, trace, 0, speaker.begun);
-    traced = speaker.begun;
-    return answer;
+    return speaker.parted ? error(PARTED) : answer;
   }
 
   public int body(int i) {
-    if (i < 0 || i >= traced) return error(NONE);
-    return trace[i];
+    if (i < 0 || i >= speaker.begun) return error(NONE);
+    return speaker.bodies[i];
   }
 
   public int sheet(int sheet, int bits, int n) {
@@ -390,7 +383,7 @@ public final class FountainTalk {
       case 4: return city.open;
       case 5: return city.taped;
       case 6: return city.waits;
-      case 7: return traced;
+      case 7: return speaker.begun;
       case 8: return city.z;
       default: return error(BEYOND);
     }
@@ -488,10 +481,11 @@ public final class FountainTalk {
     return best;
   }
 
-  /** A number for which there is no FOUNTAIN is right if it is 0: none hears it there. */
+  /** A number for which there is no FOUNTAIN is never right, not even 0: that tells of one that is there. */
   private boolean isHeardAsIn(Sheet row) {
+    if (row.length > city.fountains) return false;
     for (int f = 0; f < row.length; f++) {
-      int size = f < city.fountains && hearing.isHeardAt(f) ? hearing.sizes[f] : 0;
+      int size = hearing.isHeardAt(f) ? hearing.sizes[f] : 0;
       if (row.numbers[f] != size) return false;
     }
     return true;
@@ -845,7 +839,7 @@ public final class FountainTalk {
     }
   }
 
-  /** A FOUNTAIN while its VOICES speak, and the BODIES that began. */
+  /** A FOUNTAIN while its VOICES speak, and THE TRACE: the BODIES that began, also if it PARTED then. */
   static final class Speaker {
     /** By KIND, its BODY of each VOICE, or 0. */
     static final int[] BODIES = {

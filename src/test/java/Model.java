@@ -1,6 +1,5 @@
 import java.util.ArrayDeque;
 import java.util.ArrayList;
-import java.util.Arrays;
 import java.util.Deque;
 import java.util.List;
 import java.util.TreeMap;
@@ -476,9 +475,12 @@ final class Model {
     for (int f = 0; f < s.fountains.size(); f++) {
       for (int size = 1; size <= 20; size++) {
         int[][] at = spread(f, size, openSet());
-        int[] told = new int[24];
-        for (int i = 0; i < at.length; i++) told[i] = at[i] == null ? 0 : at[i][1];
-        if (Arrays.equals(Arrays.copyOf(told, sheets[sheet].length), sheets[sheet])) found.add(100 * f + size);
+        int right = 0;
+        for (int v : sheets[sheet]) {
+          if (noF(right) || v != (at[right] == null ? 0 : at[right][1])) break;
+          right++;
+        }
+        if (right == sheets[sheet].length) found.add(100 * f + size);
       }
     }
     if (what == 0) return found.size();
@@ -489,14 +491,12 @@ final class Model {
     if (noF(fountain) || out(voice, 0, 3)) return err(1);
     Spout f = s.fountains.get(fountain);
     f.bodies = new ArrayList<>();
-    int v;
+    trace = f.bodies;
     try {
-      v = voice == 0 ? f.splashes(x) : voice == 1 ? f.lisps(x) : voice == 2 ? f.drips(x) : f.parts(x);
+      return voice == 0 ? f.splashes(x) : voice == 1 ? f.lisps(x) : voice == 2 ? f.drips(x) : f.parts(x);
     } catch (Parted parted) {
       return err(6);
     }
-    trace = f.bodies;
-    return v;
   }
 
   int body(int i) { return i < 0 || i >= trace.size() ? err(2) : trace.get(i); }

@@ -200,7 +200,8 @@ public final class ModelTest {
   private static void callFits(int f, int size, int half) {
     int sheet = in(0, 3);
     if (draws.nextInt(3) != 0) {
-      int n = in(0, 10);
+      // a SHEET of more numbers than there are FOUNTAINS fits no SAYING: only now and then one of these
+      int n = in(0, draws.nextInt(4) == 0 ? 10 : x.count(0));
       Checks.due("sheet(" + sheet + ", 32, " + n + ")", x.sheet(sheet, 32, n), y.sheet(sheet, 32, n));
       for (int i = 0; i < Math.min(n, 8); i++) {
         int v = Math.max(0, x.heard(f, size, i, 1));
@@ -220,6 +221,8 @@ public final class ModelTest {
       case 25: case 26:
         int voice = in(0, 3);
         Checks.due("voice(" + f + ", " + voice + ", " + v + ")", x.voice(f, voice, v), y.voice(f, voice, v));
+        Checks.due("BODIES of it", x.count(7), y.count(7));
+        for (int b = 0; b < y.count(7); b++) Checks.due("body(" + b + ") of it", x.body(b), y.body(b));
         break;
       case 27: Checks.due("body(" + i + ")", x.body(i), y.body(i)); break;
       case 28:

@@ -829,9 +829,17 @@ public final class PromiseTest {
     x.put(1, 0, 20);
     x.put(1, 1, 1);
     x.put(1, 2, 2);
-    due("0 where there is no FOUNTAIN", x.fits(1, 1), 20);
+    due("0 where there is no FOUNTAIN: is not so", x.fits(1, 0), 0);
+    Checks.refused(x, NONE, "0 where there is no FOUNTAIN: there is none", () -> x.fits(1, 1));
     x.put(1, 23, 1);
     due("1 where there is no FOUNTAIN", x.fits(1, 0), 0);
+    x.sheet(1, 32, 4);
+    x.put(1, 0, 20);
+    x.put(1, 1, 1);
+    x.put(1, 2, 2);
+    due("one number too many", x.fits(1, 0), 0);
+    x.fountain(0, 0);
+    due("a FOUNTAIN for it, that does not hear it", x.fits(1, 1), 20);
     x.become(0, 0);
     x.become(1, 60);
     x.turn(2, 0);
@@ -847,6 +855,8 @@ public final class PromiseTest {
     FountainTalk y = new FountainTalk();
     y.sheet(0, 8, 0);
     due("without FOUNTAINS", y.fits(0, 0), 0);
+    y.sheet(1, 8, 1);
+    due("without FOUNTAINS, a number", y.fits(1, 0), 0);
     Checks.refused(y, NONE, "without FOUNTAINS there is none", () -> y.fits(0, 1));
   }
 
@@ -959,15 +969,27 @@ public final class PromiseTest {
     FountainTalk x = sevenKinds();
     due("SPOUT lisps", x.voice(0, 1, 7), 14);
     x.become(0, 0);
-    Checks.refused(x, PARTED, "SPOUT parts by 0", () -> x.voice(0, 3, 7));
-    trace(x, 11, 10);
+    parts(x, 0, 7);
+    trace(x, 13);
+    parts(x, 0, MIN);
+    Checks.refused(x, NONE, "the BODIES of the one ahead are gone", () -> x.body(1));
     x.become(1, 11);
-    Checks.refused(x, PARTED, "LION parts by 0", () -> x.voice(1, 3, 7));
+    parts(x, 1, 7);
+    trace(x, 21, 13);
     x.become(4, 44);
-    Checks.refused(x, PARTED, "GORGON parts by 0", () -> x.voice(4, 3, 0));
+    parts(x, 4, 0);
+    trace(x, 21, 13);
     Checks.refused(x, BEYOND, "another voice of it", () -> x.voice(4, 4, 0));
+    trace(x, 21, 13);
     due("its other VOICES stand", x.voice(4, 0, 7), 21);
     trace(x, 50, 20, 10);
+  }
+
+  /** PARTED, which changes nothing but what told(PARTED) tells and THE TRACE. */
+  private static void parts(FountainTalk x, int fountain, int number) {
+    // so that the one ahead is of the same BODIES, and nothing else may be another
+    x.voice(fountain, 3, number);
+    Checks.refused(x, PARTED, "voice(" + fountain + ", 3, " + number + ")", () -> x.voice(fountain, 3, number));
   }
 
   private static void body() {
