@@ -302,7 +302,7 @@ final class Model {
     return name >= 0 ? v[name] : Integer.parseInt(t);
   }
 
-  private static int joined(char sign, int a, int b) {
+  static int joined(char sign, int a, int b) {
     switch (sign) {
       case '|': return a != 0 || b != 0 ? 1 : 0;
       case '&': return a != 0 && b != 0 ? 1 : 0;

@@ -65,7 +65,11 @@ public final class ModelTest {
     // in some runs the city stands from the begin, in others it grows as it comes
     if (draws.nextInt(4) != 0) {
       int many = 2 + upTo(6);
-      for (int i = 0; i < many; i++) fountainCall(10 * upTo(6) + upTo(9), Math.max(0, 9 - i - upTo(2)));
+      boolean fromTheFoot = draws.nextInt(3) == 0;
+      for (int i = 0; i < many; i++) {
+        int height = Math.max(0, 9 - (fromTheFoot ? many - 1 - i : i) - upTo(2));
+        fountainCall(10 * upTo(6) + upTo(9), height);
+      }
       for (int i = 0; i < 9; i++) pipeCall(upTo(many - 1), upTo(many - 1), 1 + upTo(3));
       calls = many + 9;
       if (draws.nextBoolean()) {

@@ -1195,7 +1195,7 @@ public final class PromiseTest {
     Checks.topic("34 restore");
     FountainTalk x = fullCity();
     Checks.refused(x, NONE, "there is none", () -> x.restore());
-    java.util.List<Integer> before = Checks.seen(x);
+    java.util.List<Integer> before = Cities.seen(x);
     x.image();
     for (int times = 0; times < 2; times++) {
       x.fountain(15, 0);
@@ -1216,7 +1216,7 @@ public final class PromiseTest {
       x.tell(9);
       x.tell(9);
       due("DAY", x.restore(), 3);
-      Checks.isTrue("all is as the IMAGE has it", before.equals(Checks.seen(x)));
+      Checks.isTrue("all is as the IMAGE has it", before.equals(Cities.seen(x)));
       due("THE TAPE, too", x.text(0), 1);
       due("is z*h", x.law(0, 4, 5, 0), 20);
       due("the numbers that wait, too", x.check(), 2);
