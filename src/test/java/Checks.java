@@ -57,6 +57,14 @@ final class Checks {
     return x.text(use);
   }
 
+  /** TALK of the FOUNTAINS 0, 1, .. becomes that; SHEET 3 is missing then. */
+  static void talk(FountainTalk x, int... talks) {
+    x.sheet(3, 32, talks.length);
+    for (int i = 0; i < talks.length; i++) x.put(3, i, talks[i]);
+    due("talks", x.talks(3), talks.length);
+    x.sheet(3, 0, 0);
+  }
+
   /** Prints what came of it; ends with 1 if anything was wrong. */
   static void end() {
     System.out.println(wrong == 0 ? asked + " answers are as due" : wrong + " of " + asked + " answers are not as due");

@@ -109,13 +109,6 @@ public final class PromiseTest {
     return x;
   }
 
-  private static void talk(FountainTalk x, int... talks) {
-    x.sheet(3, 32, talks.length);
-    for (int i = 0; i < talks.length; i++) x.put(3, i, talks[i]);
-    due("talks", x.talks(3), talks.length);
-    x.sheet(3, 0, 0);
-  }
-
   private static void newObject() {
     Checks.topic("1 a new object");
     FountainTalk x = new FountainTalk();
@@ -219,7 +212,7 @@ public final class PromiseTest {
     FountainTalk x = sevenKinds();
     int[] adds = {11, 13, 19, 11, 11 + 5 + 5, 22 - 6, 1 + 7 % 3};
     for (int f = 0; f < 7; f++) due("says(" + f + ", 10)", x.says(f, 10), adds[f]);
-    talk(x, 0, 0, 0, 0, 0, 13);
+    Checks.talk(x, 0, 0, 0, 0, 0, 13);
     due("an ECHO with TALK 13", x.says(5, 10), 22 - 6 + 3);
     due("SIZE 99 is held", x.says(0, 99), 99);
     x.become(6, 65);
@@ -568,14 +561,14 @@ public final class PromiseTest {
     due("TALK of 1", x.fountainIs(1, 3), 12);
     due("TALK of 2", x.fountainIs(2, 3), 14);
     due("no DAY goes by", x.count(3), 0);
-    talk(x, 99998, 99999, 99996);
+    Checks.talk(x, 99998, 99999, 99996);
     x.let(0, 1);
     due("TALK of 0", x.fountainIs(0, 3), 99999);
     due("TALK of 1 is held", x.fountainIs(1, 3), 99999);
     due("TALK of 2", x.fountainIs(2, 3), 99999);
     x.become(0, 50);
     x.become(1, 50);
-    talk(x, 4, 3, 0);
+    Checks.talk(x, 4, 3, 0);
     due("TALK is as at the begin", x.let(0, 1), 7);
     due("an ECHO's rest of 4, then of 3", x.fountainIs(2, 3), 2 * (2 * 2 + 4 + 1) + 3);
     Checks.refused(x, BEYOND, "from 3", () -> x.let(3, 1));
@@ -587,7 +580,7 @@ public final class PromiseTest {
   private static void days() {
     Checks.topic("19 days");
     FountainTalk x = threeSpouts();
-    talk(x, 100, 7, 3);
+    Checks.talk(x, 100, 7, 3);
     due("a DAY", x.days(1), 1);
     due("less by a fourth", x.fountainIs(0, 3), 75);
     due("less by a fourth, cut", x.fountainIs(1, 3), 6);
@@ -620,7 +613,7 @@ public final class PromiseTest {
     x.fountain(0, 1);
     x.pipe(0, 1, 1);
     int[] talk = {400, 0, 0};
-    talk(x, talk);
+    Checks.talk(x, talk);
     int who = 0;
     for (int i = 0; i < 5; i++) {
       z = z * 1103515245 + 12345;
@@ -1252,7 +1245,7 @@ public final class PromiseTest {
   private static void check() {
     Checks.topic("36 check");
     FountainTalk x = threeSpouts();
-    talk(x, 10, 20, 30);
+    Checks.talk(x, 10, 20, 30);
     due("none wait", x.check(), 0);
     x.tell(10);
     x.tell(20);
