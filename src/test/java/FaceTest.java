@@ -23,6 +23,13 @@ public final class FaceTest {
     "int tell(int)", "int check()", "int count(int)", "int told(int)"
   };
 
+  /** What the interface says ahead of the calls, and how many of FACE stand below it. */
+  private static final String[] SECTIONS = {
+    "---- fountains, pipes", "---- texts", "---- what is heard", "---- keys, first sayings",
+    "---- voices, sheets, images, what is told"
+  };
+  private static final int[] BELOW = {10, 4, 6, 4, 13};
+
   public static void main(String[] args) throws IOException {
     Checks.topic("the face");
     Class<?> c = FountainTalk.class;
@@ -38,7 +45,24 @@ public final class FaceTest {
     statics(c);
     inside(c);
     source();
+    sections();
     Checks.end();
+  }
+
+  /** The calls stand in the document's order, each below what the interface says ahead of it. */
+  private static void sections() throws IOException {
+    StringBuilder due = new StringBuilder();
+    int call = 0;
+    for (int i = 0; i < SECTIONS.length; i++) {
+      due.append(SECTIONS[i]).append('\n');
+      for (int n = 0; n < BELOW[i]; n++, call++) due.append(FACE[call].replaceAll("\\(.*", "")).append('\n');
+    }
+    StringBuilder got = new StringBuilder();
+    for (String line : Files.readAllLines(Path.of("src/main/java/FountainTalk.java"))) {
+      if (line.startsWith("  // ----")) got.append(line.substring(5)).append('\n');
+      if (line.startsWith("  public int ")) got.append(line.substring(9).replaceAll("\\(.*", "")).append('\n');
+    }
+    Checks.isTrue("calls below what the interface says", got.toString().startsWith(due.toString()));
   }
 
   private static void methods(Class<?> c) {
